@@ -25,20 +25,18 @@ public final class RoomLayouts {
     /** Stands for the area of no best choice: above that of every outline within the lot. */
     private static final int NO_AREA = MOST_LOT * MOST_LOT + 1;
 
-    private final RoomList roomList = new RoomList();
     private final SignRow reading = new SignRow();
-    private final SliceTree tree = new SliceTree();
-    private final Plan plan = new Plan(roomList, tree);
+    private final Plan plan = new Plan();
     private final WishList wishList = new WishList();
 
     public RoomLayouts() {
     }
 
     public int room() throws IllegalStateException {
-        if (roomList.count >= MOST_ROOMS) {
+        if (plan.rooms.count >= MOST_ROOMS) {
             throw new IllegalStateException("there are 6 rooms");
         }
-        return roomList.addRoom();
+        return plan.rooms.addRoom();
     }
 
     public int size(int room, int width, int height)
@@ -46,11 +44,11 @@ public final class RoomLayouts {
         needRoom(room);
         needWithin(width, 1, MOST_SIDE);
         needWithin(height, 1, MOST_SIDE);
-        if (roomList.sizesOf(room) >= MOST_SIZES) {
+        if (plan.rooms.sizesOf(room) >= MOST_SIZES) {
             throw new IllegalStateException("the room has 4 sizes");
         }
         plan.forget();
-        return roomList.addSize(room, width, height);
+        return plan.rooms.addSize(room, width, height);
     }
 
     public void lot(int width, int height) throws IllegalArgumentException {
@@ -63,9 +61,9 @@ public final class RoomLayouts {
         reading.clear();
         reading.addBytes(first);
         reading.addBytes(second);
-        int fault = reading.firstFault(roomList);
+        int fault = reading.firstFault(plan.rooms);
         if (fault == NONE) {
-            tree.build(reading);
+            plan.tree.build(reading);
             plan.forget();
         }
         return fault;
@@ -73,6 +71,7 @@ public final class RoomLayouts {
 
     public int best(int what) throws IllegalArgumentException {
         needWithin(what, 0, 2);
+        plan.measure();
         if (!plan.hasBest()) {
             return NONE;
         }
@@ -85,36 +84,20 @@ public final class RoomLayouts {
     public int place(int room, int what) throws IllegalArgumentException {
         needRoom(room);
         needWithin(what, 0, 4);
-        int at = plan.nodeOfPlaced(room);
-        if (at == NONE) {
-            return NONE;
-        }
-        switch (what) {
-            case 0:
-                return plan.choice[at];
-            case 1:
-                return plan.left[at];
-            case 2:
-                return plan.bottom[at];
-            case 3:
-                return plan.widthAt(at);
-            default:
-                return plan.heightAt(at);
-        }
+        plan.settle();
+        return plan.readPlace(room, what);
     }
 
     public int outline(int k, int what) throws IllegalArgumentException {
         needNotBelowZero(k);
         needWithin(what, 0, 1);
-        Curve fitting = plan.fittingOutlines();
-        if (k >= fitting.count) {
-            return NONE;
-        }
-        return what == 0 ? fitting.width[k] : fitting.height[k];
+        plan.measure();
+        return what == 0 ? plan.fitting.widthAt(k) : plan.fitting.heightAt(k);
     }
 
     public int wall(int room, int other) throws IllegalArgumentException {
         needTwoRooms(room, other);
+        plan.settle();
         return plan.sharedWall(room, other);
     }
 
@@ -130,10 +113,12 @@ public final class RoomLayouts {
 
     public boolean met(int wish) throws IllegalArgumentException {
         needWithin(wish, 0, wishList.count - 1);
+        plan.settle();
         return wishList.isMetIn(plan, wish);
     }
 
     public int met() {
+        plan.settle();
         return wishList.countMetIn(plan);
     }
 
@@ -142,25 +127,34 @@ public final class RoomLayouts {
         if (!canExchange(room, other)) {
             return false;
         }
-        exchange(room, other);
+        changePlaces(room, other);
         return true;
     }
 
     public boolean improve() {
+        boolean wished = wishList.count > 0;
+        plan.measure();
+        if (wished) {
+            plan.settle();
+        }
         int mostMet = wishList.countMetIn(plan);
         int leastArea = plan.bestArea();
         int bestRoom = NONE;
         int bestOther = NONE;
-        for (int room = 0; room < roomList.count; room++) {
-            for (int other = room + 1; other < roomList.count; other++) {
+        for (int room = 0; room < plan.rooms.count; room++) {
+            for (int other = room + 1; other < plan.rooms.count; other++) {
                 if (!canExchange(room, other)) {
                     continue;
                 }
-                exchange(room, other);
+                changePlaces(room, other);
+                plan.measure();
+                if (wished) {
+                    plan.settle();
+                }
                 int nowMet = wishList.countMetIn(plan);
                 int nowArea = plan.bestArea();
                 // Changing places once more brings the order back as it was.
-                exchange(room, other);
+                changePlaces(room, other);
                 if (nowMet > mostMet || (nowMet == mostMet && nowArea < leastArea)) {
                     mostMet = nowMet;
                     leastArea = nowArea;
@@ -172,27 +166,27 @@ public final class RoomLayouts {
         if (bestRoom == NONE) {
             return false;
         }
-        exchange(bestRoom, bestOther);
+        changePlaces(bestRoom, bestOther);
         return true;
     }
 
     public int sign(int k) throws IllegalArgumentException {
         needNotBelowZero(k);
-        return tree.signAt(k);
+        return plan.tree.signAt(k);
     }
 
     private boolean canExchange(int room, int other) {
-        return roomList.sizesOf(room) > 0 && roomList.sizesOf(other) > 0
-                && (tree.nodeOf(room) != NONE || tree.nodeOf(other) != NONE);
+        return plan.rooms.sizesOf(room) > 0 && plan.rooms.sizesOf(other) > 0
+                && (plan.tree.nodeOf(room) != NONE || plan.tree.nodeOf(other) != NONE);
     }
 
-    private void exchange(int room, int other) {
-        tree.exchange(room, other);
+    private void changePlaces(int room, int other) {
+        plan.tree.exchange(room, other);
         plan.forget();
     }
 
     private void needRoom(int room) {
-        needWithin(room, 0, roomList.count - 1);
+        needWithin(room, 0, plan.rooms.count - 1);
     }
 
     private void needTwoRooms(int room, int other) {
@@ -237,33 +231,33 @@ public final class RoomLayouts {
 
         int addSize(int room, int sizeWidth, int sizeHeight) {
             int number = sizesOf(room);
-            if (!exists(room) || number >= MOST_SIZES) {
+            int at = slot(room, number);
+            if (at == NONE) {
                 return NONE;
             }
-            width[room * MOST_SIZES + number] = sizeWidth;
-            height[room * MOST_SIZES + number] = sizeHeight;
+            width[at] = sizeWidth;
+            height[at] = sizeHeight;
             sizeCount[room] = number + 1;
             return number;
         }
 
-        boolean exists(int room) {
-            return room >= 0 && room < count && room < MOST_ROOMS;
-        }
-
         int sizesOf(int room) {
-            return exists(room) ? sizeCount[room] : 0;
+            return room >= 0 && room < MOST_ROOMS ? sizeCount[room] : 0;
         }
 
         int widthOf(int room, int number) {
-            return hasSize(room, number) ? width[room * MOST_SIZES + number] : 0;
+            int at = slot(room, number);
+            return at == NONE ? 0 : width[at];
         }
 
         int heightOf(int room, int number) {
-            return hasSize(room, number) ? height[room * MOST_SIZES + number] : 0;
+            int at = slot(room, number);
+            return at == NONE ? 0 : height[at];
         }
 
-        private boolean hasSize(int room, int number) {
-            return number >= 0 && number < sizesOf(room);
+        private static int slot(int room, int number) {
+            boolean exists = room >= 0 && room < MOST_ROOMS && number >= 0 && number < MOST_SIZES;
+            return exists ? room * MOST_SIZES + number : NONE;
         }
     }
 
@@ -322,13 +316,19 @@ public final class RoomLayouts {
         private final int[] second = new int[MOST_SIGNS];
         private final int[] parent = new int[MOST_SIGNS];
         private final int[] open = new int[MOST_SIGNS];
+        private final int[] roomNode = new int[MOST_ROOMS];
+
+        SliceTree() {
+            forgetRooms();
+        }
 
         /** Takes over a row of signs without a fault. */
         void build(SignRow row) {
             count = Math.min(row.count, MOST_SIGNS);
+            forgetRooms();
             int parts = 0;
             for (int k = 0; k < count; k++) {
-                signs[k] = row.signAt(k);
+                setSign(k, row.signAt(k));
                 parent[k] = NONE;
                 if (joins(signs[k]) && parts >= 2) {
                     link(k, open[parts - 2], open[parts - 1]);
@@ -336,6 +336,20 @@ public final class RoomLayouts {
                 }
                 open[parts] = k;
                 parts++;
+            }
+        }
+
+        private void forgetRooms() {
+            for (int room = 0; room < MOST_ROOMS; room++) {
+                roomNode[room] = NONE;
+            }
+        }
+
+        private void setSign(int node, int sign) {
+            signs[node] = sign;
+            int room = roomOfSign(sign);
+            if (room >= 0 && room < MOST_ROOMS) {
+                roomNode[room] = node;
             }
         }
 
@@ -371,22 +385,23 @@ public final class RoomLayouts {
         }
 
         int nodeOf(int room) {
-            for (int k = 0; k < count; k++) {
-                if (roomAt(k) == room) {
-                    return k;
-                }
-            }
-            return NONE;
+            return room >= 0 && room < MOST_ROOMS ? roomNode[room] : NONE;
         }
 
         void exchange(int room, int other) {
-            int roomNode = nodeOf(room);
-            int otherNode = nodeOf(other);
-            if (has(roomNode)) {
-                signs[roomNode] = '0' + other;
+            int nodeOfRoom = nodeOf(room);
+            int nodeOfOther = nodeOf(other);
+            giveNode(room, nodeOfOther);
+            giveNode(other, nodeOfRoom);
+        }
+
+        private void giveNode(int room, int node) {
+            if (room < 0 || room >= MOST_ROOMS) {
+                return;
             }
-            if (has(otherNode)) {
-                signs[otherNode] = '0' + room;
+            roomNode[room] = node;
+            if (has(node)) {
+                signs[node] = '0' + room;
             }
         }
     }
@@ -394,8 +409,16 @@ public final class RoomLayouts {
     /** Outlines of a part, none within another one, by their widths: the heights fall. */
     private static final class Curve {
         int count = 0;
-        final int[] width = new int[MOST_OUTLINES];
-        final int[] height = new int[MOST_OUTLINES];
+        private final int[] width = new int[MOST_OUTLINES];
+        private final int[] height = new int[MOST_OUTLINES];
+
+        int widthAt(int k) {
+            return k >= 0 && k < count ? width[k] : NONE;
+        }
+
+        int heightAt(int k) {
+            return k >= 0 && k < count ? height[k] : NONE;
+        }
 
         void clear() {
             count = 0;
@@ -483,10 +506,7 @@ public final class RoomLayouts {
                     j--;
                 }
             }
-            turnRound();
-        }
-
-        private void turnRound() {
+            // They came from the widest on; a curve begins with the narrowest.
             for (int k = 0; k < count / 2; k++) {
                 exchangeOutlines(k, count - 1 - k);
             }
@@ -517,26 +537,25 @@ public final class RoomLayouts {
     }
 
     /**
-     * The best choice of the order. It is worked out only when asked for, in two steps: the whole's
-     * outlines, and then the rooms' sizes and corners, which need much more work.
+     * The best choice of the order, worked out only when asked for: measure() finds the outlines,
+     * settle() also the rooms' sizes and corners, which needs much more work. The others only read
+     * what these two have found.
      */
     private static final class Plan {
-        private final RoomList rooms;
-        private final SliceTree tree;
+        final RoomList rooms = new RoomList();
+        final SliceTree tree = new SliceTree();
         private int lotWidth = MOST_LOT;
         private int lotHeight = MOST_LOT;
         private boolean measured = false;
         private boolean settled = false;
         private final Curve[] curves = new Curve[MOST_SIGNS];
-        private final Curve fitting = new Curve();
+        final Curve fitting = new Curve();
         private int bestAt = NONE;
-        final int[] choice = new int[MOST_SIGNS];
-        final int[] left = new int[MOST_SIGNS];
-        final int[] bottom = new int[MOST_SIGNS];
+        private final int[] choice = new int[MOST_SIGNS];
+        private final int[] left = new int[MOST_SIGNS];
+        private final int[] bottom = new int[MOST_SIGNS];
 
-        Plan(RoomList roomList, SliceTree sliceTree) {
-            rooms = roomList;
-            tree = sliceTree;
+        Plan() {
             for (int k = 0; k < MOST_SIGNS; k++) {
                 curves[k] = new Curve();
             }
@@ -553,56 +572,66 @@ public final class RoomLayouts {
             forget();
         }
 
-        Curve fittingOutlines() {
-            measure();
-            return fitting;
-        }
-
         boolean hasBest() {
-            measure();
-            return bestAt >= 0 && bestAt < fitting.count;
+            return bestAt != NONE;
         }
 
         int bestWidth() {
-            return hasBest() ? fitting.width[bestAt] : NONE;
+            return fitting.widthAt(bestAt);
         }
 
         int bestHeight() {
-            return hasBest() ? fitting.height[bestAt] : NONE;
+            return fitting.heightAt(bestAt);
         }
 
         /** Without a best choice NO_AREA, since that is worse than any. */
         int bestArea() {
-            return hasBest() ? fitting.width[bestAt] * fitting.height[bestAt] : NO_AREA;
+            return hasBest() ? bestWidth() * bestHeight() : NO_AREA;
         }
 
         /** The node of a room that has a place in the best choice, or NONE. */
-        int nodeOfPlaced(int room) {
-            if (!hasBest()) {
+        private int nodeOfPlaced(int room) {
+            return hasBest() ? tree.nodeOf(room) : NONE;
+        }
+
+        int readPlace(int room, int what) {
+            int node = nodeOfPlaced(room);
+            if (!tree.has(node)) {
                 return NONE;
             }
-            settle();
-            return tree.nodeOf(room);
+            switch (what) {
+                case 0:
+                    return choice[node];
+                case 1:
+                    return left[node];
+                case 2:
+                    return bottom[node];
+                case 3:
+                    return nodeWidth(node);
+                default:
+                    return nodeHeight(node);
+            }
         }
 
-        int widthAt(int node) {
-            return tree.has(node) ? curves[node].width[0] : NONE;
+        /** Once all rooms have their sizes, each curve holds just one outline. */
+        private int nodeWidth(int node) {
+            return tree.has(node) ? curves[node].widthAt(0) : NONE;
         }
 
-        int heightAt(int node) {
-            return tree.has(node) ? curves[node].height[0] : NONE;
+        private int nodeHeight(int node) {
+            return tree.has(node) ? curves[node].heightAt(0) : NONE;
         }
 
         int sharedWall(int room, int other) {
             int a = nodeOfPlaced(room);
             int b = nodeOfPlaced(other);
-            if (a == NONE || b == NONE) {
+            if (!tree.has(a) || !tree.has(b)) {
                 return NONE;
             }
-            int rightA = left[a] + widthAt(a);
-            int rightB = left[b] + widthAt(b);
-            int topA = bottom[a] + heightAt(a);
-            int topB = bottom[b] + heightAt(b);
+            int rightA = left[a] + nodeWidth(a);
+            int rightB = left[b] + nodeWidth(b);
+            int topA = bottom[a] + nodeHeight(a);
+            int topB = bottom[b] + nodeHeight(b);
             int shared = 0;
             if (rightA == left[b] || rightB == left[a]) {
                 shared = Math.min(topA, topB) - Math.max(bottom[a], bottom[b]);
@@ -612,7 +641,7 @@ public final class RoomLayouts {
             return Math.max(shared, 0);
         }
 
-        private void measure() {
+        void measure() {
             if (measured) {
                 return;
             }
@@ -624,9 +653,10 @@ public final class RoomLayouts {
                     takeSizes(k, room);
                 }
             }
+            int last = tree.count - 1;
             fitting.clear();
-            if (tree.has(tree.count - 1)) {
-                fitting.takeFitting(curves[tree.count - 1], lotWidth, lotHeight);
+            if (tree.has(last)) {
+                fitting.takeFitting(curves[last], lotWidth, lotHeight);
             }
             bestAt = fitting.leastArea();
             measured = true;
@@ -655,9 +685,9 @@ public final class RoomLayouts {
             }
         }
 
-        /** Only after measure(), and with a best choice. */
-        private void settle() {
-            if (settled) {
+        void settle() {
+            measure();
+            if (settled || !hasBest()) {
                 return;
             }
             for (int room = 0; room < rooms.count; room++) {
@@ -672,14 +702,17 @@ public final class RoomLayouts {
          * choice within it has just this outline, since a lesser one would have less area.
          */
         private void chooseFirstSize(int node, int room) {
-            if (!tree.has(node)) {
+            int last = tree.count - 1;
+            if (!tree.has(node) || !tree.has(last)) {
                 return;
             }
-            Curve whole = curves[Math.min(tree.count, MOST_SIGNS) - 1];
+            Curve whole = curves[last];
+            int width = bestWidth();
+            int height = bestHeight();
             for (int number = 0; number < rooms.sizesOf(room); number++) {
                 choice[node] = number;
                 pin(node, rooms.widthOf(room, number), rooms.heightOf(room, number));
-                if (whole.hasWithin(bestWidth(), bestHeight())) {
+                if (whole.hasWithin(width, height)) {
                     return;
                 }
             }
@@ -696,14 +729,14 @@ public final class RoomLayouts {
         }
 
         private void setCorners() {
-            int whole = tree.count - 1;
-            if (!tree.has(whole)) {
+            int last = tree.count - 1;
+            if (!tree.has(last)) {
                 return;
             }
-            left[whole] = 0;
-            bottom[whole] = 0;
+            left[last] = 0;
+            bottom[last] = 0;
             // A part's sign stands after those of its own parts: backwards each corner is known.
-            for (int k = whole; k >= 0; k--) {
+            for (int k = last; k >= 0; k--) {
                 if (tree.roomAt(k) == NONE) {
                     setCornersOfParts(k, tree.firstOf(k), tree.secondOf(k));
                 }
@@ -711,14 +744,14 @@ public final class RoomLayouts {
         }
 
         private void setCornersOfParts(int node, int first, int second) {
-            if (!tree.has(first) || !tree.has(second)) {
+            if (!tree.has(node) || !tree.has(first) || !tree.has(second)) {
                 return;
             }
             boolean beside = tree.signAt(node) == BESIDE;
             left[first] = left[node];
             bottom[first] = bottom[node];
-            left[second] = left[node] + (beside ? widthAt(first) : 0);
-            bottom[second] = bottom[node] + (beside ? 0 : heightAt(first));
+            left[second] = left[node] + (beside ? nodeWidth(first) : 0);
+            bottom[second] = bottom[node] + (beside ? 0 : nodeHeight(first));
         }
     }
 

@@ -16,6 +16,7 @@ public final class PromisesTest {
         theFirstOfSeveral();
         placesOfRooms();
         outlines();
+        theLongestRowsOfOutlines();
         walls();
         wallsThatCornersAreNot();
         wishes();
@@ -338,6 +339,38 @@ public final class PromisesTest {
         answers.due("the best choice is settled", 5, x.best(1));
         answers.due("place", 0, x.place(0, 0));
         dueOutlines("after the places are known", x, 3, 9, 4, 8, 5, 5);
+    }
+
+    /** All heights are others but the least: joining drops none of 3 a room and one more. */
+    private static void theLongestRowsOfOutlines() {
+        RoomLayouts beside = new RoomLayouts();
+        RoomLayouts above = new RoomLayouts();
+        for (int room = 0; room < 6; room++) {
+            beside.room();
+            above.room();
+            for (int size = 0; size < 4; size++) {
+                int side = size == 3 ? 1 : 60 - 6 * size - room;
+                beside.size(room, size + 1, side);
+                above.size(room, side, size + 1);
+            }
+        }
+        String[] joined = {"01|2|3|4|5|", "012345|||||", "01|23|45|||"};
+        for (String text : joined) {
+            order(beside, text);
+            order(above, text.replace('|', '-'));
+            for (int k = 0; k < 19; k++) {
+                int along = 6 + k;
+                int across = k == 18 ? 1 : 60 - k;
+                answers.due(text + " outline(" + k + ", 0)", along, beside.outline(k, 0));
+                answers.due(text + " outline(" + k + ", 1)", across, beside.outline(k, 1));
+                answers.due(text + " outline(" + (18 - k) + ", 0) above", across, above.outline(18 - k, 0));
+                answers.due(text + " outline(" + (18 - k) + ", 1) above", along, above.outline(18 - k, 1));
+            }
+            answers.due(text + " outline(19, 0)", -1, beside.outline(19, 0));
+            answers.due(text + " outline(19, 0) above", -1, above.outline(19, 0));
+            dueBest(text, beside, 24, 1);
+            dueBest(text + " above", above, 1, 24);
+        }
     }
 
     // ---- promise 9
