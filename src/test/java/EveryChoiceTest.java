@@ -8,7 +8,7 @@ import java.util.Random;
  */
 public final class EveryChoiceTest {
     private static final int RUNS = 60;
-    private static final int CALLS = 500;
+    private static final int CALLS = 512;
 
     public static void main(String[] args) {
         Answers answers = new Answers();
