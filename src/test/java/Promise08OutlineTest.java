@@ -51,6 +51,14 @@ public final class Promise08OutlineTest {
         a.dueOutlines("a narrower part helps no more", wider, 5, 2);
     }
 
+    /** Where both parts are as wide (or as high), making just one of them less is no gain. */
+    static void ofJoinedPartsAsWideOrAsHighNoneIsThereInVain(Answers a) {
+        RoomLayouts above = Layouts.ordered("01-", "3x1 2x4", "3x1 1x5");
+        a.dueOutlines("both 3 wide", above, 2, 9, 3, 2);
+        RoomLayouts beside = Layouts.ordered("01|", "1x3 4x2", "1x3 5x1");
+        a.dueOutlines("both 3 high", beside, 2, 3, 9, 2);
+    }
+
     static void onlyThoseThatFit(Answers a) {
         RoomLayouts x = Layouts.ordered("01-", "4x3 3x4", "2x5 5x2");
         x.lot(4, 400);

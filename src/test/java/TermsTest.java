@@ -159,6 +159,19 @@ public final class TermsTest {
         a.duePlace("the last room", x, 0, 0, 11, 4, 3, 3);
     }
 
+    static void theWholesCornerIsAtZeroWhereAnotherPartsCornerWas(Answers a) {
+        RoomLayouts x = Layouts.ordered("012||", "3x3", "4x4", "5x5");
+        a.duePlace("the third part, at the right", x, 2, 0, 7, 0, 5, 5);
+        Layouts.order(x, "01|");
+        a.duePlace("the third part is the whole", x, 0, 0, 0, 0, 3, 3);
+        a.duePlace("the third part is the whole", x, 1, 0, 3, 0, 4, 4);
+        Layouts.order(x, "012--");
+        a.duePlace("the third part, above", x, 2, 0, 0, 7, 5, 5);
+        Layouts.order(x, "01-");
+        a.duePlace("the third part is the whole again", x, 0, 0, 0, 0, 3, 3);
+        a.duePlace("the third part is the whole again", x, 1, 0, 0, 3, 4, 4);
+    }
+
     // ---- the lot
 
     static void aChoiceJustAsLargeAsTheLotFits(Answers a) {
