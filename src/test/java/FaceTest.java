@@ -8,10 +8,20 @@ import java.util.TreeSet;
 /** The public face: the members of the document, and no other one that is not private. */
 public final class FaceTest {
     private static final Set<String> METHODS = new TreeSet<>(Set.of(
-            "int room()", "int size(int,int,int)", "void lot(int,int)", "int order(long,long)",
-            "int best(int)", "int place(int,int)", "int outline(int,int)", "int wall(int,int)",
-            "int wish(int,int,int)", "boolean met(int)", "int met()", "boolean swap(int,int)",
-            "boolean improve()", "int sign(int)"));
+            "int room() IllegalStateException",
+            "int size(int,int,int) IllegalArgumentException IllegalStateException",
+            "void lot(int,int) IllegalArgumentException",
+            "int order(long,long)",
+            "int best(int) IllegalArgumentException",
+            "int place(int,int) IllegalArgumentException",
+            "int outline(int,int) IllegalArgumentException",
+            "int wall(int,int) IllegalArgumentException",
+            "int wish(int,int,int) IllegalArgumentException IllegalStateException",
+            "boolean met(int) IllegalArgumentException",
+            "int met()",
+            "boolean swap(int,int) IllegalArgumentException",
+            "boolean improve()",
+            "int sign(int) IllegalArgumentException"));
 
     public static void main(String[] args) {
         Answers answers = new Answers();
@@ -29,17 +39,25 @@ public final class FaceTest {
         }
         answers.due("the methods are " + open + ", due are " + METHODS, true, open.equals(METHODS));
         for (Field field : type.getDeclaredFields()) {
-            answers.due("field " + field.getName() + " is private", !field.getName().equals("NONE"),
-                    Modifier.isPrivate(field.getModifiers()));
+            if (field.getName().equals("NONE")) {
+                answers.due("NONE is a public constant",
+                        Modifier.PUBLIC | Modifier.STATIC | Modifier.FINAL, field.getModifiers());
+                answers.due("NONE is an int", "int", field.getType().getName());
+            } else {
+                answers.due("field " + field.getName() + " is private", true,
+                        Modifier.isPrivate(field.getModifiers()));
+            }
         }
         Constructor<?>[] made = type.getDeclaredConstructors();
         answers.due("constructors", 1, made.length);
         answers.due("its parameters", 0, made[0].getParameterCount());
         answers.due("it is public", Modifier.PUBLIC, made[0].getModifiers());
+        answers.due("it throws nothing", 0, made[0].getExceptionTypes().length);
         for (Class<?> inside : type.getDeclaredClasses()) {
-            answers.due(inside.getName() + " is static and not public", true,
-                    Modifier.isStatic(inside.getModifiers())
-                            && !Modifier.isPublic(inside.getModifiers()));
+            answers.due(inside.getName() + " is static", true,
+                    Modifier.isStatic(inside.getModifiers()));
+            answers.due(inside.getName() + " is neither public nor protected", 0,
+                    inside.getModifiers() & (Modifier.PUBLIC | Modifier.PROTECTED));
         }
         answers.end();
     }
@@ -50,6 +68,11 @@ public final class FaceTest {
         for (Class<?> parameter : method.getParameterTypes()) {
             text.append(text.charAt(text.length() - 1) == '(' ? "" : ",").append(parameter);
         }
-        return text.append(')').toString();
+        text.append(')');
+        // Those that a call may throw are told in the document's order too.
+        for (Class<?> thrown : method.getExceptionTypes()) {
+            text.append(' ').append(thrown.getSimpleName());
+        }
+        return text.toString();
     }
 }
